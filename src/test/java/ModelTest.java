@@ -4,6 +4,7 @@ import java.util.Random;
 
 /** Runs of drawn calls, the same on the program and on the slow model; the draws are always the same. */
 public final class ModelTest {
+    private static final int NONE = -1;
     private static final int RUNS = 400;
     private static final int CALLS = 512;
 
@@ -16,7 +17,7 @@ public final class ModelTest {
         2, 5, 2, 1, 1, 3, 3, 3, 2, 4, 2, 2,
         2, 2, 2, 2, 2, 2, 2, 2, 1, 2, 2,
         3, 2, 2, 2, 3, 2, 3, 3, 4, 4, 4,
-        4, 4, 3, 3, 1, 1, 1, 1, 4};
+        4, 4, 3, 2, 1, 1, 1, 1, 4};
 
     private final Checks checks = new Checks();
     private final Random random;
@@ -44,6 +45,7 @@ public final class ModelTest {
         model = new Model();
         calls.clear();
         greatest = run % 4 == 0 ? 10 : run % 4 == 1 ? 6 : 3;
+        setUp();
         while (calls.size() < CALLS) {
             String name = drawnName();
             if (name.equals("bars") && random.nextInt(4) != 0) {
@@ -53,6 +55,22 @@ public final class ModelTest {
                 continue;
             }
             call(name, argumentsOf(name));
+        }
+    }
+
+    /** Without bars and rows most drawn calls would be refused. */
+    private void setUp() {
+        for (int bar = 0; bar < 2 + random.nextInt(3); bar++) {
+            long kind = random.nextInt(3) == 0 ? 5 : random.nextInt(6);
+            call("bar", kind, size());
+            for (int ring = 0; ring < greatest && kind == 5; ring++) {
+                call("table", bar, ring, condition(), condition());
+            }
+            call("stick", bar, random.nextInt(3) == 0 ? 1L << random.nextInt(greatest) : 0);
+            call("put", bar, set());
+        }
+        for (int i = 0; i < 6; i++) {
+            fillRow();
         }
     }
 
@@ -95,16 +113,16 @@ public final class ModelTest {
     }
 
     private long bar() {
-        return random.nextInt(20) == 0 ? random.nextInt(6) - 1 : random.nextInt(4);
+        return random.nextInt(20) == 0 ? random.nextInt(6) - 1 : random.nextInt(random.nextInt(4) + 1);
     }
 
     private long size() {
-        return most(greatest - 1) + 1;
+        return random.nextInt(3) == 0 ? most(greatest - 1) + 1 : greatest;
     }
 
     private long set() {
-        int bits = 1 + random.nextInt(greatest);
-        return random.nextInt(3) == 0 ? most((1 << bits) - 1) : random.nextInt(Math.min(8, 1 << greatest));
+        int bits = random.nextInt(3) == 0 ? 1 + random.nextInt(greatest) : greatest;
+        return most((1 << bits) - 1);
     }
 
     /** Laws with few rings in them leave some way to go. */
@@ -125,10 +143,11 @@ public final class ModelTest {
             case "copy":
                 return new long[] {most(7), most(7), most(6), most(6), most(6)};
             case "element":
+                return new long[] {most(7), most(7)};
             case "show":
-                return new long[] {most(7), most(4)};
+                return new long[] {random.nextInt(4) == 0 ? most(7) : 7, random.nextInt(4) == 0 ? NONE : bar()};
             case "says":
-                return new long[] {most(7), most(5)};
+                return new long[] {random.nextInt(3) == 0 ? most(7) : 7, most(5)};
             case "bar":
                 return new long[] {most(5), size()};
             case "put":
@@ -136,7 +155,7 @@ public final class ModelTest {
             case "time":
                 return new long[] {bar(), set()};
             case "stick":
-                return new long[] {bar(), random.nextInt(3) == 0 ? set() & set() : 0};
+                return new long[] {bar(), random.nextInt(3) == 0 ? set() & set() : random.nextInt(2)};
             case "table":
                 return new long[] {bar(), most(greatest - 1), condition(), condition()};
             case "minutes":
@@ -171,11 +190,11 @@ public final class ModelTest {
             case "pictures":
             case "broken":
             case "once":
-                return new long[] {most(7), most(6), bar()};
+                return new long[] {most(7), most(4), bar()};
             case "judge":
             case "behind":
             case "moved":
-                return new long[] {most(7), most(6), bar()};
+                return new long[] {most(7), most(4), bar()};
             case "goes":
                 return new long[] {bar(), set(), most(60)};
             case "play":
@@ -198,12 +217,12 @@ public final class ModelTest {
     }
 
     private void fillRow() {
-        long s = most(7);
+        long s = most(6);
         int n = 1 + random.nextInt(8);
         call("row", s, most(4), n);
-        boolean ofMoves = random.nextBoolean();
+        int filling = random.nextInt(3);
         for (int i = 0; i < n; i++) {
-            call("set", s, i, ofMoves ? move() : set());
+            call("set", s, i, filling == 0 ? move() : filling == 1 ? set() : random.nextInt(3));
         }
     }
 
