@@ -64,7 +64,7 @@ public final class RingsOff {
         if (shelves.isFree(s)) {
             return refuse(NOTHING);
         }
-        if (!shelves.hasCell(s, i)) {
+        if (!shelves.hasCells(s, i, 1)) {
             return refuse(BAD);
         }
         shelves.write(s, i, v);
@@ -119,11 +119,10 @@ public final class RingsOff {
         if (!now.hasBar(bar)) {
             return refuse(NOTHING);
         }
-        return sayingOf(bar, kind);
+        return sayingOf(bar, kind, now.onOf(bar));
     }
 
-    private int sayingOf(int bar, int kind) {
-        int on = now.onOf(bar);
+    private int sayingOf(int bar, int kind, int on) {
         switch (kind) {
             case CHAIN:
                 return (int) grayPlace(now.kindOf(bar) == AFTER ? turned(on, now.sizeOf(bar)) : on);
@@ -146,7 +145,7 @@ public final class RingsOff {
         if (kind < BAR || kind > TOLD || size < 1 || size > MOST_RINGS) {
             return refuse(BAD);
         }
-        if (now.isFull()) {
+        if (now.hasMostBars()) {
             return refuse(FULL);
         }
         return now.addBar(kind, size);
@@ -367,7 +366,7 @@ public final class RingsOff {
         }
         int all = (1 << n) - 1;
         law.takePlain(PAIR, n);
-        search.study(law);
+        search.learn(law);
         search.forget();
         search.spread(0, BACKWARD);
         return (int) grayPlace(all) - search.farOf(all);
@@ -651,7 +650,7 @@ public final class RingsOff {
 
     private void study(int bar) {
         law.take(now, bar);
-        search.study(law);
+        search.learn(law);
     }
 
     /** Leaves the search so that its nextMove() tells THE WAY to the set. */
@@ -850,7 +849,7 @@ public final class RingsOff {
             seed = other.seed;
         }
 
-        private boolean isFull() {
+        private boolean hasMostBars() {
             return bars >= MOST_BARS;
         }
 
@@ -1012,11 +1011,11 @@ public final class RingsOff {
         private final int[] nots = new int[MOST_RINGS];
 
         private void take(Evening evening, int bar) {
-            takePlain(evening.kindOf(bar), evening.sizeOf(bar));
-            stuck = evening.stuckOf(bar);
-            for (int ring = 0; ring < MOST_RINGS; ring++) {
-                musts[ring] = evening.mustOf(bar, ring);
-                nots[ring] = evening.notOf(bar, ring);
+            if (evening.hasBar(bar)) {
+                takePlain(evening.kinds[bar], evening.sizes[bar]);
+                stuck = evening.stucks[bar];
+                System.arraycopy(evening.musts, bar * MOST_RINGS, musts, 0, MOST_RINGS);
+                System.arraycopy(evening.nots, bar * MOST_RINGS, nots, 0, MOST_RINGS);
             }
         }
 
@@ -1085,7 +1084,7 @@ public final class RingsOff {
         private int sets = 0;
         private int found = 0;
 
-        private void study(Law law) {
+        private void learn(Law law) {
             size = law.size;
             sets = Math.min(1 << size, MOST_SETS);
             for (int set = 0; set < sets; set++) {
@@ -1102,12 +1101,12 @@ public final class RingsOff {
             return slot < size ? slot : BOTH;
         }
 
-        private int legalIn(int set) {
-            return isSet(set) ? legal[set] : 0;
+        private int legalAt(int set) {
+            return set >= 0 && set < sets && set < MOST_SETS ? legal[set] : 0;
         }
 
         private boolean mayGo(int set, int move) {
-            return hasBit(legalIn(set), move);
+            return (legalAt(set) >> move & 1) != 0;
         }
 
         /** Fewest moves from where the spread began, or to it if it went backward. */
@@ -1147,10 +1146,9 @@ public final class RingsOff {
         }
 
         private boolean isOpen(int set, int other, int move, int sense) {
-            if ((sense & ONWARD) != 0 && mayGo(set, move)) {
-                return true;
-            }
-            return (sense & BACKWARD) != 0 && mayGo(other, move);
+            int onward = (sense & ONWARD) != 0 ? legalAt(set) : 0;
+            int backward = (sense & BACKWARD) != 0 ? legalAt(other) : 0;
+            return ((onward | backward) >> move & 1) != 0;
         }
 
         private void note(int set, int steps) {
@@ -1173,11 +1171,11 @@ public final class RingsOff {
             return NONE;
         }
 
+        /** The sets are gone through from the least up, so that of several the least stays. */
         private int farthestSet() {
             int best = foundAt(0);
             for (int set = 0; set < sets; set++) {
-                int more = farOf(set) - farOf(best);
-                if (more > 0 || (more == 0 && set < best)) {
+                if (farOf(set) > farOf(best)) {
                     best = set;
                 }
             }
@@ -1235,7 +1233,7 @@ public final class RingsOff {
         private int movableRings() {
             int moves = 0;
             for (int i = 0; i < found; i++) {
-                moves |= legalIn(foundAt(i));
+                moves |= legalAt(foundAt(i));
             }
             int rings = moves & MOST_SETS - 1;
             return hasBit(moves, BOTH) ? rings | ringsOf(BOTH) : rings;
@@ -1244,7 +1242,7 @@ public final class RingsOff {
         private int countEnds() {
             int many = 0;
             for (int i = 0; i < found; i++) {
-                if (Integer.bitCount(legalIn(foundAt(i))) == 1) {
+                if (Integer.bitCount(legalAt(foundAt(i))) == 1) {
                     many++;
                 }
             }
@@ -1254,7 +1252,7 @@ public final class RingsOff {
         private int soonestMoveOf(int ring) {
             int wanted = ringsOf(ring) | (hasBit(ringsOf(BOTH), ring) ? 1 << BOTH : 0);
             for (int i = 0; i < found; i++) {
-                if ((legalIn(foundAt(i)) & wanted) != 0) {
+                if ((legalAt(foundAt(i)) & wanted) != 0) {
                     return farOf(foundAt(i)) + 1;
                 }
             }
@@ -1282,7 +1280,7 @@ public final class RingsOff {
         }
 
         private void share(int set) {
-            int many = Integer.bitCount(legalIn(set));
+            int many = Integer.bitCount(legalAt(set));
             if (many == 0) {
                 addPart(set, parts[set]);
                 return;
@@ -1338,11 +1336,12 @@ public final class RingsOff {
         }
 
         private boolean hasRowIn(int s) {
-            return !isFree(s) && !hasBarIn(s);
+            return s >= 0 && s < MOST && held[s] != NONE && held[s] < FIRST_BAR;
         }
 
         private int barIn(int s) {
-            return hasBarIn(s) ? heldBy(s) - FIRST_BAR : NONE;
+            int what = heldBy(s);
+            return what >= FIRST_BAR ? what - FIRST_BAR : NONE;
         }
 
         private boolean differ(int p, int q) {
@@ -1353,12 +1352,8 @@ public final class RingsOff {
             return hasRowIn(s) && i >= 0 && n >= 0 && n <= lengths[s] && i <= lengths[s] - n;
         }
 
-        private boolean hasCell(int s, int i) {
-            return hasCells(s, i, 1);
-        }
-
         private long cell(int s, int i) {
-            return hasCell(s, i) ? cells[s * MOST_CELLS + i] : 0;
+            return hasCells(s, i, 1) ? cells[s * MOST_CELLS + i] : 0;
         }
 
         private void holdRow(int s, int sort, int n) {
@@ -1393,7 +1388,7 @@ public final class RingsOff {
         }
 
         private void write(int s, int i, long v) {
-            if (hasCell(s, i)) {
+            if (hasCells(s, i, 1)) {
                 cells[s * MOST_CELLS + i] = lowestBits(heldBy(s), v);
             }
         }
@@ -1499,7 +1494,7 @@ public final class RingsOff {
         }
 
         private boolean readBar(Evening draft) {
-            if (draft.isFull() || !readNumber() || value > TOLD) {
+            if (draft.hasMostBars() || !readNumber() || value > TOLD) {
                 return false;
             }
             int kind = value;
@@ -1511,7 +1506,7 @@ public final class RingsOff {
             if (!isWord("on")) {
                 return true;
             }
-            if (!readSet(draft, bar)) {
+            if (!readNumber() || !draft.hasSet(bar, value)) {
                 return false;
             }
             draft.turnOn(bar, value);
@@ -1520,11 +1515,11 @@ public final class RingsOff {
         }
 
         private boolean readStuck(Evening draft) {
-            if (!readBarNumber(draft)) {
+            if (!readNumber() || !draft.hasBar(value)) {
                 return false;
             }
             int bar = value;
-            if (!readSet(draft, bar)) {
+            if (!readNumber() || !draft.hasSet(bar, value)) {
                 return false;
             }
             draft.fasten(bar, value);
@@ -1533,7 +1528,7 @@ public final class RingsOff {
         }
 
         private boolean readTable(Evening draft) {
-            if (!readBarNumber(draft) || draft.kindOf(value) != TOLD) {
+            if (!readNumber() || draft.kindOf(value) != TOLD) {
                 return false;
             }
             int bar = value;
@@ -1541,11 +1536,11 @@ public final class RingsOff {
                 return false;
             }
             int ring = value;
-            if (!readSet(draft, bar)) {
+            if (!readNumber() || !draft.hasSet(bar, value)) {
                 return false;
             }
             int must = value;
-            if (!readSet(draft, bar)) {
+            if (!readNumber() || !draft.hasSet(bar, value)) {
                 return false;
             }
             draft.tell(bar, ring, must, value);
@@ -1567,7 +1562,7 @@ public final class RingsOff {
         }
 
         private boolean readMove(Evening draft, Law law) {
-            if (!readBarNumber(draft)) {
+            if (!readNumber() || !draft.hasBar(value)) {
                 return false;
             }
             int bar = value;
@@ -1578,14 +1573,6 @@ public final class RingsOff {
             draft.makeMove(bar, value);
             readToken();
             return true;
-        }
-
-        private boolean readBarNumber(Evening draft) {
-            return readNumber() && draft.hasBar(value);
-        }
-
-        private boolean readSet(Evening draft, int bar) {
-            return readNumber() && draft.hasSet(bar, value);
         }
 
         private boolean readNumber() {

@@ -6,8 +6,10 @@ import java.nio.charset.StandardCharsets;
 import java.nio.file.Files;
 import java.nio.file.Path;
 import java.util.ArrayList;
+import java.util.HashMap;
 import java.util.HashSet;
 import java.util.List;
+import java.util.Map;
 import java.util.Set;
 import java.util.TreeSet;
 import java.util.regex.Matcher;
@@ -25,6 +27,7 @@ public final class FaceTest {
         members();
         words();
         sizes();
+        depths();
         CHECKS.end("FaceTest");
     }
 
@@ -122,6 +125,37 @@ public final class FaceTest {
             CHECKS.holds("made in a field: " + made.group(), made.group(1).contains("private")
                     && made.group(1).contains("="));
         }
+    }
+
+    /** How deep calls go, read from the source; a name that stands twice would count for both, so none does. */
+    private static void depths() throws Exception {
+        CHECKS.part("depths");
+        Map<String, Set<String>> calls = new HashMap<>();
+        Matcher m = Pattern.compile("(?ms)^ {4,8}(?:public|private)(?: static)? [\\w\\[\\]]+ (\\w+)\\([^)]*\\) \\{(.*?)^ {4,8}\\}$")
+                .matcher(withoutComments());
+        while (m.find()) {
+            Set<String> called = new HashSet<>();
+            Matcher call = Pattern.compile("\\b(\\w+)\\(").matcher(m.group(2));
+            while (call.find()) {
+                called.add(call.group(1));
+            }
+            CHECKS.holds(m.group(1) + " stands once", calls.put(m.group(1), called) == null);
+        }
+        CHECKS.holds("all methods are seen", calls.size() > 120);
+        for (String name : calls.keySet()) {
+            int depth = depth(name, calls, 0);
+            CHECKS.holds(name + " goes " + depth + " deep", depth <= 7);
+        }
+    }
+
+    private static int depth(String name, Map<String, Set<String>> calls, int above) {
+        int most = 0;
+        for (String called : calls.get(name)) {
+            if (calls.containsKey(called) && !called.equals(name) && above < 30) {
+                most = Math.max(most, depth(called, calls, above + 1));
+            }
+        }
+        return most + 1;
     }
 
     private static void sizes() throws Exception {

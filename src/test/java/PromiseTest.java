@@ -207,13 +207,18 @@ public final class PromiseTest {
         due("CHAIN of a CHAIN", x.says(1, CHAIN), 27);
         due("CHAIN of a PAIR", x.says(2, CHAIN), 27);
         due("CHAIN of an AFTER", x.says(3, CHAIN), 9);
-        due("PAIR", x.says(2, PAIR), x.fewest(2, 0));
+        int[] toAllOff = {0, 1, 2, 1, 5, 5, 3, 4};
+        for (int set = 0; set < 8; set++) {
+            x.put(2, set);
+            due("PAIR " + set, x.says(2, PAIR), toAllOff[set]);
+        }
         due("AFTER", x.says(3, AFTER), 4);
         due("put", x.put(3, 0), 22);
         due("AFTER of none", x.says(3, AFTER), NONE);
         due("CHAIN of none", x.says(3, CHAIN), 0);
         due("put", x.put(3, 1), 0);
         due("AFTER of ring 0", x.says(3, AFTER), 0);
+        due("put", x.put(2, 22), 7);
         due("stick", x.stick(2, 16), 0);
         due("never", x.says(2, PAIR), NONE);
         int[][] others = {{0, CHAIN}, {0, PAIR}, {0, TWO}, {0, AFTER}, {0, TOLD}, {1, PAIR}, {1, TWO},
@@ -232,7 +237,7 @@ public final class PromiseTest {
         due("a row", x.says(7, BAR), OTHER);
 
         x = new RingsOff();
-        due("bars", read(x, "bar 3 4 on 6; bar 5 4; table 1 0 1 0; table 1 1 0 2; table 1 2 3 4; table 1 3 0 0"), 6);
+        due("bars", read(x, "bar 3 4 on 6; bar 5 6; table 1 0 1 0; table 1 1 0 2; table 1 2 3 4; table 1 3 0 0"), 6);
         x.show(0, 0);
         x.show(1, 1);
         due("TWO", x.says(0, TWO), 4);
@@ -262,9 +267,11 @@ public final class PromiseTest {
         due("full", x.bar(BAR, 1), FULL);
         due("bad ahead of full", x.bar(BAR, 11), BAD);
         due("a told bar", x.table(3, 9, 1, 2), 1);
+        due("stuck", x.stick(3, 5), 0);
         due("drop", x.drop(), 3);
         due("again", x.bar(TOLD, 10), 3);
         due("with no table", x.barOf(3, 19) + x.barOf(3, 29), 0);
+        due("with none stuck", x.barOf(3, 3), 0);
 
         part(10);
         x = new RingsOff();
@@ -377,6 +384,14 @@ public final class PromiseTest {
         fault("bar on", 4);
         fault("bars 1 1", 0);
         fault("ba r", 0);
+        fault("barz 1 1", 0);
+        fault("zbar 1 1", 0);
+        fault("bar 1 1 onz 1", 8);
+        fault("bar 1 1`", 7);
+        fault("bar 1 1{", 7);
+        fault("bar 1/1", 5);
+        fault("bar 1:1", 5);
+        fault("bar 9 10", 4);
         fault(" on", 1);
         fault("Bar 1 1", 0);
         fault(";bar 1 1", 0);
@@ -457,6 +472,7 @@ public final class PromiseTest {
         }
         due("stick", x.stick(2, 2), 0);
         due("both at once with one stuck", x.may(2, 20), 0);
+        due("both of just two", with(PAIR, 2, 0).may(0, 20), 1);
         due("not refused", x.status(15), 0);
 
         part(19);
