@@ -23,7 +23,16 @@ public final class RingsOff {
     private static final int MOST_MINUTES = 99;
     private static final int MOST_PICTURES = 10;
     private static final int MOST_MOVES = 60;
+    private static final int MOST_CHANCES = 20;
+    private static final int MOST_LOCK = 99999;
+    private static final int LONGEST_RINGS = 6;
+    private static final int GAME_RINGS = 3;
+    private static final int GAME_SETS = 8;
     private static final int BOTH = 20;
+    private static final int MUST_OF = 10;
+    private static final int NOT_OF = 20;
+    private static final int REFUSED = 12;
+    private static final int LETTERS = 256;
     private static final long LINE_SETS = 1L << 60;
     private static final int WHOLE_CHANCE = 1_000_000;
 
@@ -205,11 +214,11 @@ public final class RingsOff {
             default:
                 break;
         }
-        if (what >= 20 && now.hasRing(bar, what - 20)) {
-            return now.notOf(bar, what - 20);
+        if (what >= NOT_OF && now.hasRing(bar, what - NOT_OF)) {
+            return now.notOf(bar, what - NOT_OF);
         }
-        if (what >= 10 && now.hasRing(bar, what - 10)) {
-            return now.mustOf(bar, what - 10);
+        if (what >= MUST_OF && now.hasRing(bar, what - MUST_OF)) {
+            return now.mustOf(bar, what - MUST_OF);
         }
         return refuse(BAD);
     }
@@ -217,7 +226,7 @@ public final class RingsOff {
     // ---- the tape
 
     public int feed(int letter) {
-        if (letter < 0 || letter > 255) {
+        if (letter < 0 || letter >= LETTERS) {
             return refuse(BAD);
         }
         if (tape.isFull()) {
@@ -353,7 +362,7 @@ public final class RingsOff {
         if (!now.hasBar(bar)) {
             return refuse(BAD);
         }
-        if (now.sizeOf(bar) > 6) {
+        if (now.sizeOf(bar) > LONGEST_RINGS) {
             return refuse(STUCK);
         }
         study(bar);
@@ -409,7 +418,7 @@ public final class RingsOff {
     }
 
     public int chance(int bar, int set, int m) {
-        if (!now.hasSet(bar, set) || m < 0 || m > 20) {
+        if (!now.hasSet(bar, set) || m < 0 || m > MOST_CHANCES) {
             return refuse(BAD);
         }
         study(bar);
@@ -457,7 +466,7 @@ public final class RingsOff {
     }
 
     public int lock(int m) {
-        if (m < 0 || m > 99999) {
+        if (m < 0 || m > MOST_LOCK) {
             return refuse(BAD);
         }
         for (int size = 1; size <= MOST_RINGS; size++) {
@@ -538,7 +547,7 @@ public final class RingsOff {
         if (!now.hasBar(bar) || what < 0 || what > 1) {
             return refuse(BAD);
         }
-        if (now.sizeOf(bar) > 3) {
+        if (now.sizeOf(bar) > GAME_RINGS) {
             return refuse(STUCK);
         }
         study(bar);
@@ -629,7 +638,7 @@ public final class RingsOff {
             case 7:
                 return shelves.countHeld();
             default:
-                return what >= 12 && what - 12 < refusals.length ? refusals[what - 12] : NONE;
+                return what >= REFUSED && what - REFUSED < refusals.length ? refusals[what - REFUSED] : NONE;
         }
     }
 
@@ -803,9 +812,9 @@ public final class RingsOff {
         return NONE;
     }
 
-    /** The depth ends it even if the sets that have been did not: 3 rings have 8 sets. */
+    /** No set comes twice, so that a game ends within its sets; the depth says so in its own lines. */
     private static int winningMove(Search search, int set, int been, int depth) {
-        if (depth > 8) {
+        if (depth > GAME_SETS) {
             return NONE;
         }
         for (int slot = 0; slot <= search.size; slot++) {
@@ -968,7 +977,7 @@ public final class RingsOff {
             return move == BOTH ? Math.max(minutesOf(0), minutesOf(1)) : minutesOf(move);
         }
 
-        /** On the line each step down to the place p less 1 turns the ring of p's last zeros. */
+        /** On the line the step down from a place turns the ring by the zeros at the place's end. */
         private int minutesOfChain(int size) {
             int total = 0;
             for (int place = (int) grayPlace((1 << size) - 1); place > 0; place--) {
@@ -1269,7 +1278,7 @@ public final class RingsOff {
                 Arrays.fill(nextParts, 0);
                 for (int set = 0; set < sets; set++) {
                     if (parts[set] > 0) {
-                        share(set);
+                        share(set, parts[set]);
                     }
                 }
                 int[] spent = parts;
@@ -1279,13 +1288,13 @@ public final class RingsOff {
             return parts[aim];
         }
 
-        private void share(int set) {
+        private void share(int set, int whole) {
             int many = Integer.bitCount(legalAt(set));
             if (many == 0) {
-                addPart(set, parts[set]);
+                addPart(set, whole);
                 return;
             }
-            int part = parts[set] / many;
+            int part = whole / many;
             for (int slot = 0; slot <= size; slot++) {
                 int move = moveOf(slot);
                 if (mayGo(set, move)) {
