@@ -813,8 +813,9 @@ public final class PromiseTest {
         due("no set", x.pictures(1, 2, 0), BAD);
         due("set", x.set(1, 1, 0), 1);
         due("no set, however long", x.pictures(1, 3, 0), BAD);
-        withRow(x, 2, 0, 0, 0, 0, 0, 0, 0, 0, 0, 0, 1);
+        withRow(x, 2, 0, 0, 0, 0, 0, 0, 0, 0, 0, 0, 1, 1);
         due("ten", x.pictures(2, 10, 0), 6);
+        due("eleven", x.pictures(2, 11, 0), BAD);
 
         part(41);
         due("none broken", x.broken(0, 4, 0), NONE);
