@@ -1142,7 +1142,7 @@ public final class RingsOff {
             int head = found;
             note(start, 0);
             for (; head < found && head < MOST_SETS; head++) {
-                int set = queue[head];
+                int set = foundAt(head);
                 int steps = farOf(set) + 1;
                 for (int slot = 0; slot <= size; slot++) {
                     int move = moveOf(slot);
@@ -1276,7 +1276,7 @@ public final class RingsOff {
             parts[start] = WHOLE_CHANCE;
             for (int k = 0; k < moves; k++) {
                 Arrays.fill(nextParts, 0);
-                for (int set = 0; set < sets; set++) {
+                for (int set = 0; set < sets && set < MOST_SETS; set++) {
                     if (parts[set] > 0) {
                         share(set, parts[set]);
                     }
